@@ -385,6 +385,10 @@ public final class PromisesTest {
     fault("1" + (char) 200, 0, 1);
     fault("1111+1111+1111+1111+1111+1111+1111+1111+1111+11111", 0, 49);
     fault("1111+1111+1111+1111+1111+1111+1111+1111+1111+1111+", 0, 50);
+    promise13Tape();
+  }
+
+  private static void promise13Tape() {
     NeckWorlds x = new NeckWorlds();
     Probe.tape(x, "f");
     due("13 use below", x.text(-1), BEYOND);
@@ -397,6 +401,15 @@ public final class PromisesTest {
     due("13 another", Probe.text(x, 0, "m"), 1);
     due("13 in its place", x.law(0, 7, 3, 0), 3);
     due("13 the other USE stays", x.law(1, 0, 7, 0), 7);
+    // what stood on THE TAPE ahead is gone
+    due("13 a longer one", Probe.text(x, 0, "(4)*1234"), 1);
+    due("13 no ) any more", Probe.text(x, 0, "(4"), -12);
+    due("13 no * any more", Probe.text(x, 0, "(4)"), 1);
+    due("13 worked out", x.law(0, 0, 0, 0), 4);
+    due("13 no digits any more", Probe.text(x, 0, "f"), 1);
+    Probe.text(x, 0, "1234");
+    due("13 no digits any more", Probe.text(x, 0, "5"), 1);
+    due("13 worked out", x.law(0, 0, 0, 0), 5);
   }
 
   private static void promise13Opens() {
@@ -605,10 +618,14 @@ public final class PromisesTest {
     due("15 loose too", x.loose(200), STATE);
     due("15 loose beyond ahead of state", x.loose(201), BEYOND);
     due("15 nothing changed", x.count(1), 9800);
+    x.image();
     due("15 up to 9999", x.steps(199), 0);
     due("15 STEP", x.count(1), 9999);
     due("15 none more", x.steps(1), STATE);
     due("15 none more by draws", x.loose(1), STATE);
+    due("15 back", x.restore(), 9800);
+    due("15 up to 9999 by draws", x.loose(199), 0);
+    due("15 STEP", x.count(1), 9999);
   }
 
   private static void promise16() {
@@ -714,6 +731,22 @@ public final class PromisesTest {
     x.push(0, 1);
     due("18 long", x.rests(0, 0), 41);
     due("18 long", x.rests(0, 1), 40);
+    // an orbit found by search: 5 7 12 .. rests behind 201 STEPS
+    x = new NeckWorlds();
+    due("18 reads", Probe.text(x, 0, "(31-f)/5+6325%(f+58)%2-3769%(f+31)%6"), 1);
+    x.good(0, 12);
+    x.push(0, 5);
+    due("18 behind 199", x.rests(0, 0), 199);
+    x.place(0, 7);
+    x.push(0, 2);
+    due("18 behind 200", x.rests(0, 0), 200);
+    due("18 behind 200", x.rests(0, 1), x.then(200, 0, 0));
+    x.place(0, 5);
+    x.push(0, -3);
+    due("18 behind 201 is too late", x.rests(0, 0), NONE);
+    due("18 behind 201 is too late", x.rests(0, 1), NONE);
+    x.steps(1);
+    due("18 by then it isn't", x.rests(0, 0), 200);
   }
 
   private static void promise19() {
@@ -722,6 +755,9 @@ public final class PromisesTest {
     x.good(0, 0);
     x.good(0, 40);
     due("19 none in THE MIDDLE", x.first(), NONE);
+    x.place(0, 20);
+    due("19 the first of all", x.first(), 0);
+    x.place(0, 0);
     x.good(0, 15);
     due("19 on the way to a ground", x.first(), NONE);
     x.good(39, 27);
@@ -813,6 +849,15 @@ public final class PromisesTest {
     x.push(0, 9);
     due("21 9, 8 and 7 are as soon", x.soonest(0, 1, 0), 0);
     due("21 only thought", x.ofGood(0, 3), 9);
+    x.place(0, 20);
+    x.push(0, -8);
+    due("21 9 at most", x.soonest(0, 1, 0), 9);
+    due("21 then SPEED is 1", x.soonest(0, 1, 1), 20);
+    x.push(0, -1);
+    due("21 9 isn't enough", x.soonest(0, 1, 0), NONE);
+    x.place(0, 20);
+    x.push(0, 8);
+    due("21 -9 at most", x.soonest(0, 0, 0), -9);
     // an ANVIL that only -1 (20 19 28 37 40) and 1 (20 21 30 39 40) bring there
     x.become(0, 60);
     x.place(0, 20);
@@ -842,6 +887,17 @@ public final class PromisesTest {
     due("22 none is needed", x.least(0, 0), 0);
     due("22 the other way", x.least(0, 1) > 1 ? 1 : 0, 1);
     due("22 only thought", x.ofGood(0, 3), 0);
+    Probe.text(x, 0, "0");
+    x.place(0, 20);
+    x.push(0, -8);
+    due("22 9 at most", x.least(0, 1), 9);
+    x.push(0, -1);
+    due("22 9 isn't enough", x.least(0, 1), NONE);
+    x.place(0, 20);
+    x.push(0, 8);
+    due("22 -9 at most", x.least(0, 0), -9);
+    x.push(0, 1);
+    due("22 -9 isn't enough", x.least(0, 0), NONE);
     // Off 20 all is drawn up, either way
     Probe.text(x, 0, "9*!(f=20)");
     x.place(0, 20);
@@ -1276,6 +1332,13 @@ public final class PromisesTest {
     due("34 the first", x.judge(0), 0);
     Probe.fill(x, 0, 8, 3);
     due("34 one lacks", x.judge(0), 1);
+    Probe.fill(x, 1, 8, 3, 5, 7, 7, 7, 7, 7, 7, 7);
+    for (int i = 2; i < 8; i++) {
+      x.good(0, 7);
+    }
+    due("34 nine for eight", x.judge(1), 8);
+    Probe.fill(x, 1, 8, 3, 5, 7, 7, 7, 7, 7, 7);
+    due("34 eight", x.judge(1), -1);
     due("34 moves nothing", x.ofGood(1, 2), 5);
   }
 
@@ -1357,15 +1420,25 @@ public final class PromisesTest {
     due("36 SPEED at first", x.ofGood(0, 3), 0);
     due("36 HOME at first", x.ofGood(0, 4), 3);
     // what waits in the IMAGE isn't what waits now
-    x.tell(1);
+    x = new NeckWorlds();
     x.tell(2);
+    x.tell(3);
     x.image();
     x.check();
-    x.tell(3);
+    x.tell(4);
     due("36 STEP", x.restore(), 0);
-    x.place(0, 1);
-    Probe.text(x, 0, "1*(f=1)");
-    due("36 1 wasn't so", x.check(), 1);
+    x.good(12, 1);
+    Probe.text(x, 0, "f=1");
+    due("36 what waits, as kept", x.check(), 0);
+    // PULL by the TEXT of the IMAGE, though another was asked for ahead
+    x.image();
+    Probe.text(x, 0, "f=1|3");
+    due("36 another PULL", x.then(3, 0, 0), 7);
+    x.place(0, 5);
+    due("36 another PULL", x.ofGood(0, 6), 1);
+    x.restore();
+    x.place(0, 5);
+    due("36 the one ahead", x.ofGood(0, 6), 0);
   }
 
   private static void promise37() {
@@ -1419,6 +1492,12 @@ public final class PromisesTest {
     due("39 SIDE 1", x.count(4), 2);
     due("39 THE MIDDLE", x.count(5), 2);
     due("39 AT REST", x.count(6), 6);
+    x.place(1, 1);
+    due("39 SIDE 0, not beside it", x.count(3), 1);
+    x.place(1, 0);
+    x.place(2, 39);
+    due("39 SIDE 1, not beside it", x.count(4), 1);
+    x.place(2, 40);
     x.place(7, 20);
     due("39 SIDE 1", x.count(4), 1);
     due("39 THE MIDDLE", x.count(5), 3);
