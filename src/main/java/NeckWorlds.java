@@ -1150,7 +1150,6 @@ public final class NeckWorlds {
       }
       most = Math.min(lowers, uppers);
       bestSum = -1;
-      Arrays.fill(mate, -1);
       pairFrom(0, 0, 0);
     }
 

@@ -138,6 +138,15 @@ public final class PromisesTest {
     due("3 pulled by a TEXT", x.ofGood(0, 6), 2);
     x.become(0, 9);
     due("3 pulled, held", x.ofGood(0, 6), 9);
+    // PULL of one m and FLOOR is never that of others
+    Probe.text(x, 0, "(f*2+m)%19-9");
+    for (int m = 0; m < 10; m++) {
+      x.become(0, m);
+      for (int floor = 0; floor <= 40; floor += 3) {
+        x.place(0, floor);
+        due("3 pulled " + m + " at " + floor, x.ofGood(0, 6), (floor * 2 + m) % 19 - 9);
+      }
+    }
   }
 
   private static void promise3Rest() {
@@ -1408,6 +1417,27 @@ public final class PromisesTest {
     x.steps(1);
     due("36 the latest", x.restore(), 5);
     restoreNewGood();
+    restoreFull();
+  }
+
+  private static void restoreFull() {
+    NeckWorlds x = new NeckWorlds();
+    for (int i = 0; i < 8; i++) {
+      x.good(i, 18 + i);
+    }
+    x.image();
+    Probe.text(x, 0, "7");
+    Probe.text(x, 1, "7");
+    x.loose(9);
+    due("36 STEP", x.restore(), 0);
+    due("36 no TEXT of PULL", x.law(0, 30, 0, 0), 2);
+    due("36 no TEXT of TAX", x.law(1, 1, 9, 0), 18);
+    due("36 z", x.count(10), 1);
+    for (int i = 0; i < 8; i++) {
+      due("36 m of " + i, x.ofGood(i, 1), i);
+      due("36 floor of " + i, x.ofGood(i, 2), 18 + i);
+      due("36 speed of " + i, x.ofGood(i, 3), 0);
+    }
   }
 
   private static void restoreNewGood() {
