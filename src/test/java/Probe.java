@@ -57,4 +57,23 @@ final class Probe {
       x.put(sheet, i, numbers[i]);
     }
   }
+
+  /** A world with a PULL and one of the GOODS in it. */
+  static NeckWorlds world(String pull, int km, int floor, int speed) {
+    NeckWorlds x = new NeckWorlds();
+    due("reads " + pull, text(x, 0, pull), 1);
+    x.good(km, floor);
+    x.push(0, speed);
+    return x;
+  }
+
+  /** The same without PULL. */
+  static NeckWorlds still(int km, int floor, int speed) {
+    return world("0", km, floor, speed);
+  }
+
+  static void is(String what, NeckWorlds x, int floor, int speed) {
+    due(what + ": FLOOR", x.ofGood(0, 2), floor);
+    due(what + ": SPEED", x.ofGood(0, 3), speed);
+  }
 }
