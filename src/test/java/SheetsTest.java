@@ -321,10 +321,15 @@ public final class SheetsTest {
       x.seed(4);
       x.loose(3);
       x.steps(1);
+      x.off(0, 1, 1);
+      x.as(0, 7);
+      x.trace(40);
       int step = y.count(1);
+      String told = Stage.told(x);
       due(stage.name + ": restore", x.restore(), step);
       due(stage.name + ": the same", x.count(1), step);
       due(stage.name + ": twice", x.restore(), step);
+      Probe.holds(stage.name + ": told() stays", Stage.told(x).equals(told));
       Probe.holds(stage.name + ": all is as the IMAGE has it", stage.look(x).equals(stage.look(y)));
     }
   }

@@ -84,6 +84,10 @@ public final class TextsTest {
         due("byte " + b + " alone", Probe.text(x, use, "" + (char) b), isPart ? 1 : isOpen ? -11 : -10);
         due("byte " + b + " behind", Probe.text(x, use, "" + name + (char) b), isSign ? -12 : -11);
         due("byte " + b + " behind +", Probe.text(x, use, name + "+" + (char) b), isPart ? 1 : isOpen ? -13 : -12);
+        due("byte " + b + " ahead of a part", Probe.text(x, use, "" + (char) b + name), isPart ? -11
+            : b == '!' ? 1 : isOpen ? -12 : -10);
+        due("byte " + b + " amid", Probe.text(x, use, name + "+" + (char) b + name), isPart ? -13
+            : b == '!' ? 1 : isOpen ? -14 : -12);
         due("byte " + b + " within", Probe.text(x, use, "(" + name + (char) b + "1)"), isSign ? 1
             : b == ')' ? -13 : -12);
       }
